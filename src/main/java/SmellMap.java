@@ -238,6 +238,7 @@ public final class SmellMap {
         if (!city.isThere() || what != 0 && what != 1) {
             return NONE;
         }
+        blow(weather.now(WIND));
         return walked(what == 1);
     }
 
@@ -349,6 +350,7 @@ public final class SmellMap {
         if (Integer.bitCount(city.streetSet()) > Blind.MOST_STREETS) {
             return HIDDEN;
         }
+        blow(weather.now(WIND));
         int nows = walked(true);
         if (nows == 0 || !blind.gather(city, nows, place)) {
             return NONE;
@@ -381,7 +383,7 @@ public final class SmellMap {
         for (int minute = 0; minute <= LAST_MINUTE; minute++) {
             int cans = notes.cans(minute);
             if (Integer.bitCount(cans) == 1) {
-                return what == 0 ? minute : city.cellOf(Integer.numberOfTrailingZeros(cans));
+                return what == 0 ? minute : city.cellOf(Integer.bitCount(cans - 1));
             }
         }
         return NONE;
@@ -475,29 +477,32 @@ public final class SmellMap {
         air.blow(city, holdingLaw(), weather, wind);
     }
 
+    /** Where one can have gone from by the trail, or where one can be then. */
     private int walked(boolean ends) {
-        blow(weather.now(WIND));
         air.breathe(city, smelling());
         return steps.fitting(city, air, ends);
     }
 
+    /** Where one ends who follows a kind from a place. */
     private int noseEnd(int place, int kind) {
         int here = place;
-        for (int n = 0; n < MOST_CELLS; n++) {
-            here = noseStep(here, kind);
+        int next = noseStep(here, kind);
+        for (int n = 0; n < MOST_CELLS && next != here; n++) {
+            here = next;
+            next = noseStep(here, kind);
         }
         return here;
     }
 
+    /** Behind how many steps one ends who follows a kind from a place. */
     private int noseSteps(int place, int kind) {
-        int here = place;
         int count = 0;
-        for (int n = 0; n < MOST_CELLS; n++) {
-            int next = noseStep(here, kind);
-            if (next != here) {
-                count++;
-            }
+        int here = place;
+        int next = noseStep(here, kind);
+        while (count < MOST_CELLS && next != here) {
+            count++;
             here = next;
+            next = noseStep(here, kind);
         }
         return count;
     }
@@ -587,9 +592,8 @@ public final class SmellMap {
             }
         }
 
-        /** The sign that stands next is wrong. */
+        /** The sign that next() told last is wrong. */
         void refuse() {
-            next();
             refuseAt(place);
         }
 
@@ -597,21 +601,17 @@ public final class SmellMap {
             refuseAt(size);
         }
 
-        private int here() {
-            return wrong == NONE && place < size ? at(bytes, place) : BEHIND;
-        }
-
         /** The sign that stands next, behind blanks. */
         int next() {
             while (place < size && at(bytes, place) == BLANK) {
                 place++;
             }
-            return here();
+            return wrong == NONE && place < size ? at(bytes, place) : BEHIND;
         }
 
-        /** Goes past the sign that stands next. */
+        /** Goes past the sign that next() told last. */
         void pass() {
-            if (next() != BEHIND) {
+            if (place < size) {
                 place++;
             }
         }
@@ -641,11 +641,12 @@ public final class SmellMap {
                 return least;
             }
             int v = 0;
-            for (int n = 0; n < digits && isDigit(here()); n++) {
-                v = v * 10 + here() - '0';
+            int end = Math.min(size, place + digits);
+            while (place < end && isDigit(at(bytes, place))) {
+                v = v * 10 + at(bytes, place) - '0';
                 place++;
             }
-            if (isDigit(here())) {
+            if (place < size && isDigit(at(bytes, place))) {
                 refuseAt(place);
             } else if (v < least || v > most) {
                 refuseAt(place - 1);
@@ -821,8 +822,8 @@ public final class SmellMap {
             if (side == wind) {
                 return 1;
             }
-            boolean against = wind != 0 && Math.abs(side - wind) == 2;
-            return against ? 3 : 2;
+            // Sides 1 to 4 go round, so the one across is two on.
+            return (side + 1) % 4 + 1 == wind ? 3 : 2;
         }
 
         /** Reads the tape's text; false: it is none of a city, the tape tells where it is wrong. */
@@ -905,11 +906,8 @@ public final class SmellMap {
             int there = 0;
             for (int n = first; n <= last; n++) {
                 int item = itemOf(tape.next(), first, last);
-                if (item == NONE) {
-                    return;
-                }
-                if ((there >> item & 1) != 0) {
-                    tape.refuse();
+                if (item == NONE || (there >> item & 1) != 0) {
+                    // Whoever reads on finds no ; there, and refuses it.
                     return;
                 }
                 there |= 1 << item;
@@ -967,11 +965,10 @@ public final class SmellMap {
     private static final class Law {
         private static final int BOUND = 1000000;
 
-        /** No sign of a text makes more than one entry, so its length is enough. */
+        /** A clause's y : ? make three entries at most, every other sign one: a text's length is enough. */
         private final int[] code = new int[MOST_BYTES];
         private int size = 0;
         private final int[] stack = new int[MOST_BYTES];
-        private int top = 0;
         private int power = 0;
         private int farness = 0;
         private int hour = 0;
@@ -982,19 +979,17 @@ public final class SmellMap {
             size = 0;
         }
 
-        void addNumber(int number) {
-            put(code, size, number);
-            size = Math.min(size + 1, MOST_BYTES);
-        }
-
-        void addSign(int sign) {
-            addNumber(-sign);
+        void add(int entry) {
+            if (size < MOST_BYTES) {
+                put(code, size, entry);
+                size++;
+            }
         }
 
         /** A jump to the next clause, if the condition does not hold: where its goal is to be put. */
         int addJump() {
-            addSign('?');
-            addNumber(0);
+            add(-'?');
+            add(0);
             return size - 1;
         }
 
@@ -1011,46 +1006,30 @@ public final class SmellMap {
         }
 
         int worth() {
-            top = 0;
+            int top = 0;
+            int next = 0;
             for (int i = 0; i < size; i++) {
                 int entry = at(code, i);
-                if (entry >= 0) {
-                    push(entry);
-                } else if (entry == -';') {
-                    return pop();
-                } else if (entry == -'?') {
-                    i = pop() != 0 ? i + 1 : Math.max(i + 1, at(code, i + 1) - 1);
+                if (i < next) {
+                    continue;
+                }
+                if (entry == -';') {
+                    return at(stack, top - 1);
+                }
+                if (entry == -'?') {
+                    top--;
+                    next = at(stack, top) != 0 ? i + 2 : at(code, i + 1);
+                } else if (entry >= 0 || Grammar.isLetter(-entry)) {
+                    put(stack, top, entry >= 0 ? entry : letterWorth(-entry));
+                    top++;
+                } else if (entry == -'!') {
+                    put(stack, top - 1, 1 - at(stack, top - 1));
                 } else {
-                    apply(-entry);
+                    top--;
+                    put(stack, top - 1, joined(at(stack, top - 1), -entry, at(stack, top)));
                 }
             }
             return 0;
-        }
-
-        private void push(int v) {
-            if (top < MOST_BYTES) {
-                put(stack, top, v);
-                top++;
-            }
-        }
-
-        private int pop() {
-            if (top > 0) {
-                top--;
-            }
-            return at(stack, top);
-        }
-
-        private void apply(int sign) {
-            if (Grammar.isLetter(sign)) {
-                push(letterWorth(sign));
-            } else if (sign == '!') {
-                push(1 - pop());
-            } else {
-                int right = pop();
-                int left = pop();
-                push(joined(left, sign, right));
-            }
         }
 
         private int letterWorth(int letter) {
@@ -1148,10 +1127,10 @@ public final class SmellMap {
                 tape.need('?');
                 int jump = law.addJump();
                 readSum(tape, law, 0);
-                law.addSign(';');
+                law.add(-';');
                 law.jumpToHere(jump);
             } else {
-                law.addSign(';');
+                law.add(-';');
             }
         }
 
@@ -1165,14 +1144,14 @@ public final class SmellMap {
             for (int n = 0; n < MOST_BYTES && tape.take('|'); n++) {
                 readUnit(tape, law, depth);
                 readUnitsOn(tape, law, depth);
-                law.addSign('|');
+                law.add(-'|');
             }
         }
 
         private static void readUnitsOn(Tape tape, Law law, int depth) {
             for (int n = 0; n < MOST_BYTES && tape.take('&'); n++) {
                 readUnit(tape, law, depth);
-                law.addSign('&');
+                law.add(-'&');
             }
         }
 
@@ -1190,7 +1169,7 @@ public final class SmellMap {
             tape.pass();
             if (sign == '!') {
                 readUnit(tape, law, depth + 1);
-                law.addSign('!');
+                law.add(-'!');
             } else {
                 readCondition(tape, law, depth + 1);
                 tape.need(')');
@@ -1205,7 +1184,7 @@ public final class SmellMap {
             }
             tape.pass();
             readSum(tape, law, depth);
-            law.addSign(sign);
+            law.add(-sign);
         }
 
         private static void readSum(Tape tape, Law law, int depth) {
@@ -1214,7 +1193,7 @@ public final class SmellMap {
             for (int n = 0; n < MOST_BYTES && (sign == '+' || sign == '-'); n++) {
                 tape.pass();
                 readTerm(tape, law, depth);
-                law.addSign(sign);
+                law.add(-sign);
                 sign = tape.next();
             }
         }
@@ -1225,7 +1204,7 @@ public final class SmellMap {
             for (int n = 0; n < MOST_BYTES && (sign == '*' || sign == '/'); n++) {
                 tape.pass();
                 readAtom(tape, law, depth);
-                law.addSign(sign);
+                law.add(-sign);
                 sign = tape.next();
             }
         }
@@ -1233,10 +1212,10 @@ public final class SmellMap {
         private static void readAtom(Tape tape, Law law, int depth) {
             int sign = tape.next();
             if (Tape.isDigit(sign)) {
-                law.addNumber(tape.number(4, 0, 9999));
+                law.add(tape.number(4, 0, 9999));
             } else if (isLetter(sign)) {
                 tape.pass();
-                law.addSign(sign);
+                law.add(-sign);
             } else if (sign == '[' && depth < DEEPEST) {
                 tape.pass();
                 readSum(tape, law, depth + 1);

@@ -285,6 +285,14 @@ public final class PromiseTests {
         law("y:[[[p]]]+[[[p]]]*[[[p]]]=[[[1]]]&!!!p=1|!!!f=1?[[[[[[1]]]]]]", -1);
         law("y:!!!!!!p=[1]?1", 10);
         law("y:p:1", 3);
+        law("y:p=[[[[[[1]]]]]]?1", -1);
+        law("y:p=[[[[[[[1]]]]]]]?1", 10);
+        law("y:p=1&((((((p=1))))))?1", -1);
+        law("y:p=1&(((((((p=1)))))))?1", 12);
+        law("y:p=1|((((((p=1))))))?1", -1);
+        law("y:p=1|!!!!!!!p=1?1", 12);
+        law("y:p=1?[[[[[[1]]]]]]", -1);
+        law("y:p=1?[[[[[[[1]]]]]]]", 12);
         law("x:1", 0);
         law("y:1;y:2;y:3;y:4;y:5;y:6;y:7;y:8", -1);
     }
@@ -325,6 +333,13 @@ public final class PromiseTests {
         due("text(0), clauses in any order", x.text(0), 3);
         due("street(0) then", x.street(0), 0);
         due("street(11) then", x.street(11), 1);
+        SmellMap y = Check.city("l.;s");
+        Check.put(y, "y:1");
+        due("fault(1) of one law", y.fault(1), -1);
+        Check.put(y, "y:2");
+        due("text(1) of another law", y.text(1), 0);
+        y.law(0);
+        due("smell by the other law", y.smell(0, 0), 2);
         due("source(0, 1) then", x.source(0, 1), 11);
         due("source(1, 1) then", x.source(1, 1), 10);
         due("count(9) then", x.count(9), 7);
@@ -334,6 +349,7 @@ public final class PromiseTests {
     private static void textAgain() {
         SmellMap x = Check.city(TOWN + ";dn3");
         Check.law(x, "y:42");
+        due("far(0, 10) of the first city", x.far(0, 10), 2);
         x.set(0, 2);
         x.set(1, 1);
         x.set(2, 77);
@@ -356,6 +372,23 @@ public final class PromiseTests {
         due("smell with the law", x.smell(0, 0), 42);
         due("far(0, 11) of the second city", x.far(0, 11), 4);
         due("far(0, 1) of the second city", x.far(0, 1), -1);
+        Check.put(x, "l..;l..;s");
+        due("text(0), a third", x.text(0), 4);
+        due("far(0, 11) of the third city", x.far(0, 11), 4);
+        due("far(0, 1) of the third city", x.far(0, 1), 2);
+        Check.put(x, "l...;sk3c2f4u5p7;d n9");
+        x.text(0);
+        Check.put(x, "l...;sk3c2f4u5p7;d n9");
+        x.text(0);
+        for (int city = 0; city < 2; city++) {
+            Check.put(x, "l...;s;d");
+            x.text(0);
+            int[] usual = {0, 0, 0, 0, 5};
+            for (int what = 0; what < usual.length; what++) {
+                due("source(0, " + what + ") without items", x.source(0, what), usual[what]);
+            }
+            due("count(9) without n", x.count(9), 1);
+        }
     }
 
     /** Promise 6. */
@@ -455,6 +488,8 @@ public final class PromiseTests {
         Check.law(x, "y:w*10+f");
         x.set(0, 4);
         due("y:w*10+f with wind 4", x.smell(2, 3), 46);
+        Check.law(x, "y:0");
+        due("y:0 with wind 4", x.smell(2, 3), 0);
         worth("y:99", 99);
         worth("y:100", 99);
         worth("y:0-1", 0);
@@ -492,6 +527,13 @@ public final class PromiseTests {
         worth("y:p=7|p=1&p=2?7;y:9", 7);
         worth("y:(p=7|p=1)&p=2?7;y:9", 9);
         worth("y:!p=7&p=1?7;y:9", 9);
+        worth("y:!p=7?7;y:9", 9);
+        worth("y:!p=6?7;y:9", 7);
+        worth("y:!!p=6?7;y:9", 9);
+        worth("y:!p=7|!p=6?7;y:9", 7);
+        worth("y:p>6&f=4?7;y:9", 7);
+        worth("y:p<8&f=4?7;y:9", 7);
+        worth("y:!p>7&!p<7?7;y:9", 7);
         worth("y:!(p=7&p=1)?7;y:9", 7);
         worth("y:!!p=7?7;y:9", 7);
         worth("y:!(p=7)|f=4?7;y:9", 7);
@@ -522,6 +564,7 @@ public final class PromiseTests {
             due("acts", x.count(12), acts);
         }
         for (int odd : new int[] {-1, 4, 5, Integer.MAX_VALUE, Integer.MIN_VALUE}) {
+            due("set(" + odd + ", 0)", x.set(odd, 0), false);
             due("set(" + odd + ", 1)", x.set(odd, 1), false);
         }
         due("acts behind all", x.count(12), acts);
@@ -614,6 +657,7 @@ public final class PromiseTests {
         due("acts, forty at most", x.count(12), 40);
         for (int n = 39; n >= 0; n--) {
             due("undo()", x.undo(), n);
+            due("the hour then", x.count(6), n + 5);
         }
         due("the hour that stays", x.count(6), 5);
         due("undo() of none", x.undo(), -1);
@@ -737,6 +781,10 @@ public final class PromiseTests {
         x.set(1, 1);
         due("breath(0) in rain, 4", x.breath(0), 1);
         due("breath(1) in rain, 3", x.breath(1), 0);
+        x.set(1, 0);
+        x.set(0, 4);
+        due("breath(1), kind 0 against the wind", x.breath(1), 1);
+        due("breath(2), kind 0 against the wind", x.breath(2), 2);
         SmellMap all = Check.city("l.;s;sk1;sk2;sk3;sk4");
         due("all kinds", all.breath(0), 31);
     }
@@ -745,6 +793,13 @@ public final class PromiseTests {
     private static void strongest() {
         SmellMap x = Check.city(TOWN);
         due("strongest(12)", x.strongest(12), 1);
+        due("strongest(0)", x.strongest(0), 0);
+        due("strongest of 1", Check.city("l..;sp1;sk1").strongest(0), 1);
+        due("strongest, 1 alone", Check.city("l..;sp1").strongest(1), 0);
+        SmellMap wind = Check.city("l...;sp3;sk1c2p3");
+        due("strongest(1), no wind", wind.strongest(1), 0);
+        wind.set(0, 4);
+        due("strongest(1), wind 4", wind.strongest(1), 1);
         due("strongest(2)", x.strongest(2), 0);
         due("strongest(11)", x.strongest(11), -1);
         for (int odd : ODD) {
@@ -799,6 +854,17 @@ public final class PromiseTests {
         x.trail(1, 0);
         due("where(0), impossible", x.where(0), 0);
         due("where(1), impossible", x.where(1), 0);
+        x.wipe();
+        x.trail(0, 1);
+        x.set(0, 4);
+        due("where(0) against the wind", x.where(0), 11);
+        x.set(0, 0);
+        due("where(0) without wind", x.where(0), 11);
+        x.set(3, 1);
+        due("where(0), dull 1", x.where(0), 9);
+        x.set(0, 4);
+        due("where(0), dull 1 and wind 4", x.where(0), 8);
+        due("where(1), dull 1 and wind 4", x.where(1), 8);
         due("where(2)", x.where(2), -1);
         due("where(-1)", x.where(-1), -1);
     }
@@ -814,6 +880,12 @@ public final class PromiseTests {
         due("door(1), breath 0 is none", x.door(1), -1);
         x.open(0, false);
         due("door(0), shut ones can be opened", x.door(0), 1);
+        x.set(0, 2);
+        due("door(1) by the wind", x.door(1), -1);
+        due("door(2) by the wind", x.door(2), 2);
+        x.set(3, 1);
+        due("door(0) by the wind, dull 1", x.door(0), -1);
+        due("door(2) by the wind, dull 1", x.door(2), 2);
         SmellMap alike = Check.city("l..;sp1;sp1;sc1k1p1;dn2");
         due("door(0), the least", alike.door(0), 1);
         due("door(1)", alike.door(1), 4);
@@ -844,6 +916,14 @@ public final class PromiseTests {
         SmellMap none = Check.city("l..;s");
         due("most(0), all alike", none.most(0), 0);
         due("most(1), all alike", none.most(1), 1);
+        SmellMap blown = Check.city("l...;sp1;sc2k1p1;dn2");
+        due("most(0) without wind", blown.most(0), 3);
+        due("most(1) without wind", blown.most(1), 3);
+        blown.set(0, 2);
+        due("most(0) by the wind", blown.most(0), 1);
+        blown.set(3, 1);
+        due("most(1) by the wind, dull 1", blown.most(1), 2);
+        due("most(0) by the wind, dull 1", blown.most(0), 2);
         SmellMap later = Check.city("l..;s;sk1;sk2p1;dn2");
         due("most(0), the third one", later.most(0), 4);
         due("most(1), the third one", later.most(1), 2);
@@ -862,6 +942,10 @@ public final class PromiseTests {
         due("silent(), one shut", x.silent(), 36);
         x.open(0, false);
         due("silent(), both shut", x.silent(), 47);
+        SmellMap blown = Check.city("l...;sp1");
+        due("silent() without wind", blown.silent(), 4);
+        blown.set(0, 2);
+        due("silent() by the wind", blown.silent(), 0);
         due("silent() behind a wall", Check.city("l.#.;s").silent(), 4);
     }
 
@@ -895,6 +979,9 @@ public final class PromiseTests {
         due("there is none more", x.breath(10), 1);
         x.set(3, 10);
         due("forged(10, 2), dull 10", x.forged(10, 2), 11);
+        x.set(0, 1);
+        due("forged(10, 2), wind 1", x.forged(10, 2), 15);
+        x.set(0, 0);
         x.set(1, 1);
         due("forged(10, 2), in rain", x.forged(10, 2), 0);
         x.set(1, 0);
@@ -964,6 +1051,10 @@ public final class PromiseTests {
         due("led(max)", x.led(Integer.MAX_VALUE), -1);
         x.open(1, false);
         due("led(1), shut", x.led(1), 0);
+        SmellMap out = Check.city("l....;sp2");
+        due("led(0) without wind", out.led(0), 15);
+        out.set(0, 4);
+        due("led(0) against the wind", out.led(0), 7);
         SmellMap flat = Check.city("l...;sp9");
         flat.set(0, 2);
         flat.set(1, 1);
@@ -992,6 +1083,21 @@ public final class PromiseTests {
         }
         x.trail(0, 0);
         due("sure(0, 0), nobody", x.sure(0, 0), -1);
+        SmellMap breathed = Check.city("l.....;sp2");
+        due("sure(4, 1), before a breath", breathed.sure(4, 1), 2);
+        breathed.trail(0, 0);
+        due("where(1), 3 or 4", breathed.where(1), 24);
+        breathed.set(0, 4);
+        due("sure(4, 0), 2 to 4 by wind 4", breathed.sure(4, 0), 2);
+        breathed.set(0, 0);
+        due("sure(4, 0), 3 or 4", breathed.sure(4, 0), 1);
+        due("sure(4, 1), 3 or 4", breathed.sure(4, 1), 2);
+        due("sure(0, 0), 3 or 4", breathed.sure(0, 0), 4);
+        breathed.trail(2, 0);
+        due("sure(4, 0), surely there", breathed.sure(4, 0), 0);
+        due("sure(4, 1), surely there", breathed.sure(4, 1), 0);
+        due("sure(3, 0), one back", breathed.sure(3, 0), 1);
+        due("sure(3, 1), one back", breathed.sure(3, 1), 4);
         SmellMap one = Check.city("l.;s");
         due("sure(0, 0), it is", one.sure(0, 0), 0);
         due("sure(0, 1), it is", one.sure(0, 1), 0);
@@ -1063,12 +1169,24 @@ public final class PromiseTests {
         due("thief(0), it can't be", x.thief(0), 0);
         due("thief(7), it can't be", x.thief(7), 0);
         due("thief(30), it can't be", x.thief(30), 0);
+        SmellMap corner = Check.city(TOWN);
+        corner.note(0, 0, 0, true);
+        due("thief(0), at the corner", corner.thief(0), 1);
+        due("thief(1), from the corner", corner.thief(1), 11);
         SmellMap apart = Check.city("l.#.;s");
         apart.note(4, 0, 9, false);
         due("thief(0), on the other side", apart.thief(0), 4);
         SmellMap away = Check.city(ROW);
         away.note(0, 0, 1, false);
         due("thief(0), not within one step", away.thief(0), 28);
+        due("thief(1) then", away.thief(1), 30);
+        due("thief(2) then", away.thief(2), 31);
+        away.note(30, 4, 0, true);
+        due("thief(30), the last", away.thief(30), 16);
+        due("thief(29), before it", away.thief(29), 24);
+        due("thief(28), before that", away.thief(28), 28);
+        away.note(10, 0, 2, true);
+        due("thief(10), within two steps", away.thief(10), 7);
     }
 
     /** Promise 30. */
