@@ -672,9 +672,10 @@ public final class SmellMap {
         private final int[] items = new int[(MOST_SOURCES + 1) * ITEMS];
         /** By place and side: where a step leads. */
         private final int[] beside = new int[MOST_CELLS * SIDES];
-        /** By wind, start and goal; a start's goals are reckoned when first asked for. */
-        private final int[] far = new int[SIDES * MOST_CELLS * MOST_CELLS];
-        private final int[] farReckoned = new int[SIDES * MOST_CELLS];
+        /** By start and goal; a start's goals are reckoned when first asked for by a wind. */
+        private final int[] far = new int[MOST_CELLS * MOST_CELLS];
+        /** By start: the wind by which its goals have been reckoned, and one; 0 if they have not. */
+        private final int[] farWind = new int[MOST_CELLS];
 
         boolean isThere() {
             return rows > 0;
@@ -780,12 +781,12 @@ public final class SmellMap {
         }
 
         int farness(int wind, int from, int to) {
-            int start = wind * MOST_CELLS + from;
-            if (at(farReckoned, start) == 0) {
-                reckonFar(wind, from, start * MOST_CELLS);
-                put(farReckoned, start, 1);
+            int row = from * MOST_CELLS;
+            if (at(farWind, from) != wind + 1) {
+                reckonFar(wind, from, row);
+                put(farWind, from, wind + 1);
             }
-            return at(far, start * MOST_CELLS + to);
+            return at(far, row + to);
         }
 
         private void reckonFar(int wind, int from, int row) {
@@ -859,7 +860,7 @@ public final class SmellMap {
                     put(items, clause * ITEMS + item, at(ITEM_USUAL, item));
                 }
             }
-            Arrays.fill(farReckoned, 0);
+            Arrays.fill(farWind, 0);
         }
 
         private void readClause(Tape tape) {
@@ -964,11 +965,16 @@ public final class SmellMap {
      */
     private static final class Law {
         private static final int BOUND = 1000000;
+        /**
+         * How many numbers wait at most: at each of six ( [ within one another, and outside of them in a
+         * condition and in a sum, one ahead of | or + and one ahead of & or *; one ahead of = and the last.
+         */
+        private static final int MOST_WAITING = 18;
 
         /** A clause's y : ? make three entries at most, every other sign one: a text's length is enough. */
         private final int[] code = new int[MOST_BYTES];
         private int size = 0;
-        private final int[] stack = new int[MOST_BYTES];
+        private final int[] stack = new int[MOST_WAITING];
         private int power = 0;
         private int farness = 0;
         private int hour = 0;
@@ -1589,50 +1595,61 @@ public final class SmellMap {
     private static final class Blind {
         static final int MOST_STREETS = 12;
         private static final int SETS = 1 << MOST_STREETS;
+        /** Where in an entry of the queue the first side and the count of steps stand, above the set. */
+        private static final int FIRST = MOST_STREETS;
+        private static final int STEPS = FIRST + 3;
+        /** Bits in a number of the row of sets that are reached. */
+        private static final int WORD = 32;
 
         /** The streets' own numbers, without gaps, so that there are few sets of them. */
         private final int[] numbers = new int[MOST_CELLS];
         /** By street's number and side: the number of the street where a step leads. */
         private final int[] leads = new int[MOST_STREETS * SIDES];
         private int streets = 0;
+        /** The sets in the order in which they are reached, each with its first side and its steps. */
         private final int[] queue = new int[SETS];
-        /** By set: 0 if it has not been reached, else the steps to it and one. */
-        private final int[] reached = new int[SETS];
-        private final int[] first = new int[SETS];
+        private int size = 0;
+        private final int[] reached = new int[SETS / WORD];
+        /** The entry of the queue at which all are on one place. */
         private int goal = 0;
 
         /** Whether all who can be on a set of streets can be brought to one place. */
         boolean gather(City city, int from, int place) {
             number(city);
-            goal = 1 << at(numbers, place);
-            int start = packed(city, from);
             Arrays.fill(reached, 0);
-            put(reached, start, 1);
-            put(first, start, 0);
-            put(queue, 0, start);
-            int size = 1;
+            size = 0;
+            reach(packed(city, from), 0, 0);
+            int all = packed(city, 1 << place);
             // Sets come in the order of their least rows of steps, so the first row to reach one is the least.
-            for (int n = 0; n < size && n < SETS && at(reached, goal) == 0; n++) {
-                int set = at(queue, n);
+            for (int n = 0; n < size && n < SETS; n++) {
+                goal = at(queue, n);
+                int set = goal & SETS - 1;
+                if (set == all) {
+                    return true;
+                }
                 for (int side = 1; side < SIDES; side++) {
-                    int next = moved(set, side);
-                    if (at(reached, next) == 0) {
-                        put(reached, next, at(reached, set) + 1);
-                        put(first, next, n == 0 ? side : at(first, set));
-                        put(queue, size, next);
-                        size++;
-                    }
+                    reach(moved(set, side), n == 0 ? side : firstStep(), stepCount() + 1);
                 }
             }
-            return at(reached, goal) != 0;
+            return false;
+        }
+
+        private void reach(int set, int first, int steps) {
+            int word = at(reached, set / WORD);
+            int bit = 1 << set % WORD;
+            if ((word & bit) == 0) {
+                put(reached, set / WORD, word | bit);
+                put(queue, size, set | first << FIRST | steps << STEPS);
+                size++;
+            }
         }
 
         int stepCount() {
-            return at(reached, goal) - 1;
+            return goal >> STEPS;
         }
 
         int firstStep() {
-            return at(first, goal);
+            return goal >> FIRST & 7;
         }
 
         private void number(City city) {

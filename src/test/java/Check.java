@@ -4,13 +4,30 @@ import java.util.NoSuchElementException;
 final class Check {
     static int passed = 0;
     static int failed = 0;
+    private static int edges = 0;
+    private static int rowsAtEdge = 0;
+    private static String edge = "";
 
     static void due(String what, long got, long want) {
         if (got == want) {
             passed++;
         } else {
             failed++;
-            System.out.println(what + " answered " + got + ", due is " + want);
+            System.out.println(edge + what + " answered " + got + ", due is " + want);
+        }
+    }
+
+    /** A test of its own begins: of one sentence of the document, by a promise. */
+    static void edge(int promise, String sentence) {
+        endEdge();
+        edges++;
+        edge = "Promise " + promise + ": \"" + sentence + "\": ";
+        rowsAtEdge = passed + failed;
+    }
+
+    private static void endEdge() {
+        if (edges > 0 && rowsAtEdge == passed + failed) {
+            due("the test asks something", false, true);
         }
     }
 
@@ -62,6 +79,18 @@ final class Check {
         due("law(" + law + ") of " + text, law >= 0 && x.law(law), true);
     }
 
+    /** A text with ^ ahead of its first wrong byte, or with none if it is right: as a city (0), as a law (1). */
+    static void read(int sort, String marked) {
+        int want = marked.indexOf('^');
+        String text = want < 0 ? marked : marked.substring(0, want) + marked.substring(want + 1);
+        SmellMap x = new SmellMap();
+        put(x, text);
+        due("fault(" + sort + ") of \"" + text + "\"", x.fault(sort), want);
+        due("bytes behind fault(" + sort + ") of \"" + text + "\"", x.count(5), text.length());
+        due("text(" + sort + ") of \"" + text + "\" is refused", x.text(sort) == SmellMap.NONE, want >= 0);
+        due("bytes behind text(" + sort + ") of \"" + text + "\"", x.count(5), want < 0 ? 0 : text.length());
+    }
+
     static int cityFault(String text) {
         SmellMap x = new SmellMap();
         put(x, text);
@@ -75,6 +104,11 @@ final class Check {
     }
 
     static void close(String name) {
+        endEdge();
+        edge = "";
+        if (edges > 0) {
+            System.out.println(name + ": " + edges + " sentences");
+        }
         System.out.println(name + ": " + passed + " as due, " + failed + " not");
         if (failed != 0) {
             System.exit(1);
