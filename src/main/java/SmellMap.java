@@ -625,7 +625,9 @@ public final class SmellMap {
         }
 
         void need(int sign) {
-            if (!take(sign)) {
+            if (next() == sign) {
+                pass();
+            } else {
                 refuse();
             }
         }

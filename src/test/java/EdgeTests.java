@@ -23,6 +23,7 @@ public final class EdgeTests {
         whiffs();
         breaths();
         strongest();
+        noStreetsOfAFullCity();
         images();
         backs();
         counts();
@@ -721,6 +722,7 @@ public final class EdgeTests {
         due("the last kind", Check.city("l.;sk4").strongest(0), 4);
         due("the first kind", Check.city("l.;s").strongest(0), 0);
         due("the greatest, told first", Check.city("l.;sk4p9;sp8").strongest(0), 4);
+        due("of a SMELL of 1", Check.city("l..;sk2p1").strongest(1), 2);
         edge(16, "(of several the lowest)");
         due("strongest(2), 8 of both", x.strongest(2), 1);
         due("of five", Check.city("l.;sk4;sk3;sk2;sk1;s").strongest(0), 0);
@@ -741,6 +743,33 @@ public final class EdgeTests {
             due("strongest(" + cell + ")", town.strongest(cell), -1);
         }
         due("without a CITY", nowhere().strongest(0), -1);
+    }
+
+    /** A question that no CELL but a STREET gets an answer to. */
+    private interface Question {
+        int of(SmellMap x, int cell);
+    }
+
+    /** The last CELL of a full CITY stands in a row just ahead of the first one of the next SOURCE. */
+    private static void noStreetsOfAFullCity() {
+        SmellMap x = Check.city("l.....;l.....;l.....;l.....;sr3c4p9;sk1p9;sk2r3p9");
+        ofAFullCity(x, 7, (y, cell) -> y.street(cell));
+        ofAFullCity(x, 13, (y, cell) -> Math.max(y.far(0, cell), y.far(cell, 34)));
+        ofAFullCity(x, 14, (y, cell) -> Math.max(y.smell(cell, 0), y.smell(cell, 1)));
+        ofAFullCity(x, 15, (y, cell) -> y.breath(cell));
+        ofAFullCity(x, 16, (y, cell) -> y.strongest(cell));
+        ofAFullCity(x, 20, (y, cell) -> y.door(cell));
+        ofAFullCity(x, 24, (y, cell) -> y.forged(cell, 0));
+        ofAFullCity(x, 25, (y, cell) -> Math.max(y.follow(cell, 0, 0), y.follow(cell, 1, 1)));
+        ofAFullCity(x, 27, (y, cell) -> y.sure(cell, 0));
+        ofAFullCity(x, 28, (y, cell) -> y.note(0, cell, 1, true));
+    }
+
+    private static void ofAFullCity(SmellMap x, int promise, Question question) {
+        edge(promise, "NONE: no such CELL of twenty STREETS");
+        for (int cell : new int[] {-1, -2, -10, 5, 9, 15, 19, 25, 29, 35, 39, 40, 44, 50, 100, 340, MAX, MIN}) {
+            due("of cell " + cell, question.of(x, cell), -1);
+        }
     }
 
     private static void images() {

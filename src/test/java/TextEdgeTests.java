@@ -97,6 +97,12 @@ public final class TextEdgeTests {
         due("the highest bit of each", x.feed(Integer.MIN_VALUE, Integer.MIN_VALUE, 0, 0, 0x80), 3);
         due("all bits", x.feed(-1, -1, -1, -1, -1), 23);
 
+        edge(2, "every byte but 0 is one more");
+        for (int b = 1; b < 256; b++) {
+            due("byte " + b, new SmellMap().feed(0, b << 24, 0, b << 8, 0), 2);
+            due("byte " + b + " on 160", full(160).feed(0, 0, b << 16, 0, 0), -1);
+        }
+
         edge(2, "how many it has");
         x = full(3);
         due("three", x.count(5), 3);
@@ -135,6 +141,25 @@ public final class TextEdgeTests {
         due("none", x.count(5), 0);
         due("end(0) of none", x.end(0), true);
         due("end(160) of 160", full(160).end(160), true);
+
+        edge(3, "its first n bytes alone: of the others nothing is left");
+        x = new SmellMap();
+        Check.put(x, "l.;s;             d");
+        x.end(5);
+        due("l.;s; ends too early", x.fault(0), 5);
+        due("text(0)", x.text(0), -1);
+        x.end(4);
+        due("l.;s", x.fault(0), -1);
+        Check.put(x, "y:1+              2");
+        x.end(4);
+        due("y:1+ ends too early", x.fault(1), 4);
+        Check.put(x, "y:1234");
+        x.end(3);
+        due("text(1) of y:1", x.text(1), 0);
+        Check.put(x, "l.;s");
+        x.text(0);
+        x.law(0);
+        due("its worth", x.smell(0, 0), 1);
 
         edge(3, "False: n");
         x = full(6);
@@ -439,7 +464,9 @@ public final class TextEdgeTests {
     private static void withinOneAnother() {
         edge(4, "At most six of ( [ ! within one another");
         law("y:[[[[[[1]]]]]]", "y:((((((p=1))))))?1", "y:!!!!!!p=1?1", "y:!(!(!(p=1)))?1", "y:(((([[p]]=1))))?1",
-            "y:!!!!![p]=1?1", "y:p=1?[[[[[[1]]]]]]", "y:p=[[[[[[1]]]]]]?1");
+            "y:!!!!![p]=1?1", "y:p=1?[[[[[[1]]]]]]", "y:p=[[[[[[1]]]]]]?1",
+            "y:p=1&((((((p=1))))))?1", "y:p=1|((((((p=1))))))?1", "y:p=1&!!!!!!p=1?1", "y:p=1|!!!!!!p=1?1",
+            "y:p=1|p=1&[[[[[[1]]]]]]=1?1");
         edge(4, "a seventh of ( [ ! at it");
         law("y:[[[[[[^[1]]]]]]]", "y:((((((^(p=1)))))))?1", "y:!!!!!!^!p=1?1", "y:!(!(!(^!p=1)))?1", "y:((((((^[p]=1))))))?1",
             "y:!!!!!!^[p]=1?1", "y:!!!!!!p=^[1]?1", "y:!!!!!!^(p=1)?1", "y:(((([[^[p]]]=1))))?1", "y:p=1?[[[[[[^[1]]]]]]]",
@@ -509,6 +536,52 @@ public final class TextEdgeTests {
         due("the hour", x.count(6), 0);
         due("the trail", x.count(10), 0);
         due("back()", x.back(), -1);
+
+        edge(5, "all that was of another one is gone: ITEMS, STREETS, FAR, even of the one ahead of the last");
+        x = Check.city("l...;l...;l...;sk1r2c2f4u5p7;dn9");
+        due("far(0, 2), the first", x.far(0, 2), 4);
+        Check.put(x, "l.#;l..;sk2r1p2;dn8");
+        due("text(0), the second", x.text(0), 3);
+        due("far(0, 11), the second", x.far(0, 11), 4);
+        due("far(0, 1), the second", x.far(0, 1), -1);
+        Check.put(x, "l.#.;l...;s;sc2");
+        due("text(0), the third", x.text(0), 5);
+        due("far(0, 2), the third", x.far(0, 2), 8);
+        due("far(0, 1), the third", x.far(0, 1), -1);
+        due("far(0, 10), the third", x.far(0, 10), 2);
+        due("street(20), the third", x.street(20), -1);
+        due("dull, the third", x.count(9), 1);
+        int[] usual = {0, 0, 0, 0, 5, 1, 1};
+        for (int what = 0; what < 7; what++) {
+            due("source(0, " + what + "), the third", x.source(0, what), usual[what]);
+        }
+        for (int n = 0; n < 4; n++) {
+            Check.put(x, n % 2 == 0 ? "l.....;sk4" : "l.....;s");
+            x.text(0);
+            due("its kind", x.source(0, 0), n % 2 == 0 ? 4 : 0);
+            due("its breath", x.breath(0), n % 2 == 0 ? 16 : 1);
+        }
+
+        edge(5, "a text with a FAULT, or one read for its FAULT alone, leaves nothing behind");
+        Check.put(x, "l#####;l.....;sk3r1c1p9f1u2;dn7");
+        due("fault(0)", x.fault(0), -1);
+        Check.put(x, "l...;l.;sk3");
+        due("fault(0)", x.fault(0), 11);
+        due("streets", x.count(2), 5);
+        due("source(0, 0)", x.source(0, 0), 0);
+        due("far(0, 4)", x.far(0, 4), 8);
+        Check.put(x, "l..;s");
+        due("text(0)", x.text(0), 2);
+        due("rows", x.count(0), 1);
+        due("source(0, 3)", x.source(0, 3), 0);
+        Check.put(x, "y:9;y:8");
+        due("fault(1)", x.fault(1), -1);
+        Check.put(x, "y:7*f+");
+        due("fault(1)", x.fault(1), 6);
+        Check.put(x, "y:4");
+        due("text(1)", x.text(1), 0);
+        x.law(0);
+        due("its worth", x.smell(1, 0), 4);
 
         edge(5, "but LAWS, none holds");
         x = Check.city("l.;s");
@@ -736,6 +809,13 @@ public final class TextEdgeTests {
         worth("y:p=7|f=4?1;y:2", 1);
         worth("y:p=7&f=4?1;y:2", 1);
         worth("y:p=7&f=5?1;y:2", 2);
+        worth("y:p>6&f=4?1;y:2", 1);
+        worth("y:p=7&f>3?1;y:2", 1);
+        worth("y:p<8&f=4?1;y:2", 1);
+        worth("y:p=7&f<5?1;y:2", 1);
+        worth("y:!p>7&f>3?1;y:2", 1);
+        worth("y:!p>6|!f>4?1;y:2", 1);
+        worth("y:!p>6|!f>3?1;y:2", 2);
         worth("y:p=6&f=4?1;y:2", 2);
         worth("y:p=1|p=2|p=7?1;y:2", 1);
         worth("y:p=7&f=4&k=2?1;y:2", 2);

@@ -245,6 +245,20 @@ public final class WalkEdgeTests {
         both.open(1, false);
         due("door(0), both shut", both.door(0), 1);
         due("they are shut still", both.breath(0), 0);
+        edge(20, "SOURCES of the CITY alone: no forged one, none of another CITY");
+        SmellMap forger = Check.city("l.....;sf1u2;sf1u2;sf1u2;sf1u2;sf1u2;sf1u2;dn15");
+        due("forged(3, 2)", forger.forged(3, 2), 8);
+        due("door(3)", forger.door(3), -1);
+        due("most(0)", forger.most(0), 0);
+        due("most(1)", forger.most(1), 1);
+        due("silent()", forger.silent(), 31);
+        SmellMap less = Check.city("l..;sp9;sk1p1;sk2p1;sk3p1;sk4p1;sk4p1;dn2");
+        due("door(0) of six", less.door(0), 2);
+        Check.put(less, "l..;sp9");
+        less.text(0);
+        due("door(0) of one behind six", less.door(0), -1);
+        due("most(1) of one behind six", less.most(1), 1);
+        due("breath(0) of one behind six", less.breath(0), 1);
         edge(20, "so that a STREET has a BREATH (not 0)");
         SmellMap none = Check.city("l..;sp1;dn2");
         due("door(0)", none.door(0), 1);
@@ -312,6 +326,13 @@ public final class WalkEdgeTests {
         SmellMap six = Check.city("l.....;l.....;l.....;sk0;sk1c4;sk2r2;sk3r2c4;sk4r1c2;sk0r1c4;dn9");
         due("most(1)", six.most(1) >= 8, true);
         most("l..;s;s;s;s;s;sp1k1;dn2", 32, 2);
+        edge(21, "BREATHS from 0 to 31, both counted");
+        SmellMap nested = Check.city("l.....;l####.;s;sk1;sk2;sk3;sk4");
+        Check.law(nested, "y:f<2*k+2?9");
+        due("breath(0)", nested.breath(0), 31);
+        due("breath(14)", nested.breath(14), 0);
+        due("most(0)", nested.most(0), 31);
+        due("most(1)", nested.most(1), 6);
         edge(21, "by HOUR, WIND, RAIN as they are");
         SmellMap now = Check.city("l..;sp1f5u6;dn2");
         due("most(1) at 0", now.most(1), 1);
@@ -608,6 +629,17 @@ public final class WalkEdgeTests {
         apart.trail(0, 1);
         sure(apart, 0, 0, 0);
         sure(apart, 2, -1, -1);
+        edge(27, "NONE: it can't be, though it could ahead of it");
+        SmellMap later = Check.city(ROW);
+        sure(later, 4, 4, 2);
+        Check.put(later, "l..#..;s");
+        later.text(0);
+        for (int cell : new int[] {0, 1, 3, 4}) {
+            sure(later, cell, -1, -1);
+        }
+        later.trail(0, 1);
+        sure(later, 1, 1, 2);
+        sure(later, 4, -1, -1);
         edge(27, "NONE: nobody can be anywhere");
         SmellMap nobody = Check.city(ROW);
         nobody.trail(0, 31);
